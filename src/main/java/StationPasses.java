@@ -426,12 +426,13 @@ public final class StationPasses {
         }
 
         private Items itemsOf(char letter) {
-            switch (letter) {
-                case 's': return sats;
-                case 'g': return stations;
-                case 'a': return antennas;
-                default: return null;
+            if (letter == 's') {
+                return sats;
             }
+            if (letter == 'g') {
+                return stations;
+            }
+            return letter == 'a' ? antennas : null;
         }
 
         private static int readNumbers(Letters text, int place, Items items, int[] row) {
@@ -491,7 +492,10 @@ public final class StationPasses {
             }
             int p = known;
             first[p] = t;
-            last[p] = lastSlot(setting, i, j, t);
+            last[p] = t;
+            while (last[p] + 1 < SLOTS && setting.sees(i, j, last[p] + 1)) {
+                last[p]++;
+            }
             satOf[p] = i;
             stationOf[p] = j;
             step[p] = setting.sats.number(i, BAND) == 0 ? 2 : 3;
@@ -500,14 +504,6 @@ public final class StationPasses {
                 volume[p] += rateIn(p, slot);
             }
             known++;
-        }
-
-        private static int lastSlot(Setting setting, int i, int j, int t) {
-            int slot = t;
-            while (slot + 1 < SLOTS && setting.sees(i, j, slot + 1)) {
-                slot++;
-            }
-            return slot;
         }
 
         boolean has(int p) {
@@ -837,7 +833,7 @@ public final class StationPasses {
         private final int[] open = new int[WINDOW];
         /** For two passes of the window, v ahead of w, at v * WINDOW + w: antennas they don't go together on. */
         private final int[] apart = new int[WINDOW * WINDOW];
-        /** Passes of the window that no sat could serve beside a pass, as bits. */
+        /** Passes of the window ahead of a pass that share its sat and a slot with it, as bits. */
         private final int[] rivals = new int[WINDOW];
         /**
          * A tree: at (1 << w) + mask the lowest rank that is still to be had when passes 0 to w - 1 of the

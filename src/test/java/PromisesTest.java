@@ -160,6 +160,10 @@ public final class PromisesTest {
         faultOf(station + "a0,0;", 5);
         faultOf(station + "a0,0,0,0;", 5);
         faultOf(sat + "g0,0;" + sat + ";", 11);
+        StationPasses x = new StationPasses();
+        tell(x, sat);
+        tell(x, sat.substring(0, 10));
+        due("letters of a wiped text are no more", x.fault(), 0);
     }
 
     private static void faultLimits() {
@@ -628,6 +632,9 @@ public final class PromisesTest {
         due("undone, too", x.plan(0, 0, 6, -4), 4);
         x.out(2, 4, 4);
         due("out, too", x.plan(0, 0, 6, -1), 63);
+        tell(x, TWO_ON_TWO);
+        x.lay();
+        due("laid, too", x.plan(0, 0, 6, -1), 48);
     }
 
     // Promise 18
