@@ -2,13 +2,19 @@
 final class Check {
     private int passed;
     private int failed;
+    private String sentence = "";
+
+    /** The document's words that the answers from here on are due by. */
+    void says(String words) {
+        sentence = "\"" + words + "\" ";
+    }
 
     void due(String call, int got, int want) {
         if (got == want) {
             passed++;
         } else {
             failed++;
-            System.out.println(call + " answered " + got + ", due is " + want);
+            System.out.println(sentence + call + " answered " + got + ", due is " + want);
         }
     }
 
