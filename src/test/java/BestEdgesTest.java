@@ -423,6 +423,11 @@ public final class BestEdgesTest {
         due("of another window", x.plan(0, 3, 6, -4), 3);
         due("of fewer changes", x.plan(0, 3, 2, -4), 2);
         due("by another law", x.plan(1, 3, 2, -4), 0);
+        // one sat over two stations: 0-5 and 1-6, 30-35 and 31-36, the last one out
+        StationPasses y = Told.laid("s0,30,0,9,0;g0,6;g1,6;a0,0,0;a1,0,0;");
+        y.out(1, 31, 31);
+        plan("the first two are of one sat", y, 0, 0, 6, 48, 0, 2, 2, NONE, 1, 0, NONE);
+        plan("in the next window they are not", y, 0, 1, 6, 48, 0, 2, 2, 1, 0, NONE);
     }
 
     private static void planned() {

@@ -29,6 +29,7 @@ public final class ContactsEdgesTest {
         undoneKinds();
         undoneOut();
         undoneLast6();
+        undoneBetweenChanges();
         undoneOfNothing();
         undoneNotBehindLaid();
         whyLowest();
@@ -408,6 +409,29 @@ public final class ContactsEdgesTest {
             due("undo of no more", x.undo(), NO);
             due("from", x.antenna(0, 3), changes <= 6 ? NONE : changes - 6);
         }
+    }
+
+    private static void undoneBetweenChanges() {
+        CHECK.says("UNDONE is the latest change (the last 6 can be");
+        StationPasses x = new StationPasses();
+        for (int n = 1; n <= 8; n++) {
+            x.out(0, n, n);
+        }
+        for (int left = 5; left >= 2; left--) {
+            due("undo", x.undo(), left);
+        }
+        due("from, as behind the fourth", x.antenna(0, 3), 4);
+        for (int n = 21; n <= 25; n++) {
+            x.out(0, n, n);
+            due("count(5)", x.count(5), Math.min(6, n - 18));
+        }
+        int[] from = {24, 23, 22, 21, 4, 3};
+        for (int n = 0; n < 6; n++) {
+            due("undo", x.undo(), 5 - n);
+            due("from", x.antenna(0, 3), from[n]);
+        }
+        due("undo of no more", x.undo(), NO);
+        due("from", x.antenna(0, 3), 3);
     }
 
     private static void undoneOfNothing() {
