@@ -94,10 +94,11 @@ public final class RefusedTest {
     }
 
     private static void told() {
-        CHECK.says("write: BAD; lay: NO.");
+        CHECK.says("A letter (32 to 126, as in ASCII) comes behind THE TEXT: how long it is. BAD");
         refused("write(31)", x -> x.write(31), BAD);
         refused("write(127)", x -> x.write(127), BAD);
         refused("write(-1)", x -> x.write(-1), BAD);
+        CHECK.says("LAID: how many PASSES. NO.");
         refused("lay()", StationPasses::lay, NO);
     }
 
@@ -169,7 +170,7 @@ public final class RefusedTest {
         refused("take(19)", x -> x.take(19), BAD);
         refused("take(0)", x -> x.take(0), NO);
         refused("take(4), which fits no antenna", x -> x.take(4), NO);
-        CHECK.says("An ANTENNA is OUT from a SLOT to a SLOT (0 to 59 each; ..): how many CONTACTS are none by it. BAD.");
+        CHECK.says("An ANTENNA is OUT from a SLOT to a SLOT (0 to 59 each; from above to: not OUT): how many CONTACTS are none by it. BAD.");
         refused("out(-1,0,0)", x -> x.out(-1, 0, 0), BAD);
         refused("out(3,0,0)", x -> x.out(3, 0, 0), BAD);
         refused("out(0,-1,59)", x -> x.out(0, -1, 59), BAD);
