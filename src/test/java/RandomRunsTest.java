@@ -87,7 +87,7 @@ public final class RandomRunsTest {
     }
 
     private String number(int low, int high) {
-        int n = low + chance.nextInt(high - low + 1);
+        int n = chance.nextInt(6) == 0 ? (chance.nextBoolean() ? low : high) : low + chance.nextInt(high - low + 1);
         return n < 10 && chance.nextInt(9) == 0 ? "0" + n : "" + n;
     }
 
@@ -117,7 +117,7 @@ public final class RandomRunsTest {
             case "give": { int b = fittingOr(p, a); due("give(" + p + "," + b + ")", x.give(p, b), m.give(p, b)); break; }
             case "why": { int b = fittingOr(p, a); due("why(" + p + "," + b + ")", x.why(p, b), m.why(p, b)); break; }
             case "take": due("take(" + p + ")", x.take(p), m.take(p)); break;
-            case "out": { int to = some(60); due("out(" + a + "," + t + "," + to + ")", x.out(a, t, to), m.out(a, t, to)); break; }
+            case "out": { int from = edgeOf(t), to = edgeOf(some(60)); due("out(" + a + "," + from + "," + to + ")", x.out(a, from, to), m.out(a, from, to)); break; }
             case "undo": due("undo()", x.undo(), m.undo()); break;
             case "best": bestCalls(a, k + 2); break;
             case "plan": planCalls(law, p, c, k); break;
@@ -131,6 +131,13 @@ public final class RandomRunsTest {
 
     private int slotOf(int p, int t) {
         return m.pass(p, 0) >= 0 && chance.nextInt(4) > 0 ? m.pass(p, 0) + chance.nextInt(m.pass(p, 1) - m.pass(p, 0) + 2) : t;
+    }
+
+    /** A slot at an end of a pass or beside it, or this one. */
+    private int edgeOf(int t) {
+        int passes = m.count(3);
+        return passes > 0 && chance.nextBoolean()
+            ? m.pass(chance.nextInt(passes), chance.nextInt(2)) + chance.nextInt(3) - 1 : t;
     }
 
     private int fittingOr(int p, int a) {
