@@ -36,6 +36,7 @@ public final class BestEdgesTest {
         planAsked();
         planWithoutAntennas();
         planTakesNoOther();
+        planOfWindowsInTurn();
         planned();
         bound();
         boundOfNone();
@@ -304,6 +305,9 @@ public final class BestEdgesTest {
         CHECK.says("by MOST (0) the way by which VOLUME of all CONTACTS of the WINDOW is greatest");
         StationPasses x = Told.laid("s0,60,0,1,9;s1,60,1,99,0;g0,6;a0,2,0;");
         plan("though it loses more", x, 0, 0, 6, 36, 1078, 1, 1, NONE, 0);
+        // slots 8 and 12 (2 each), or 10 between them (3): one half more is worth a contact more
+        StationPasses close = Told.laid("s10,60,1,9,0;s8,60,0,9,0;s12,60,0,9,0;g0,1;a0,2,2;");
+        plan("the least more, by more contacts", close, 0, 0, 6, 4, 0, 2, 2, 0, NONE, 0);
         due("plan by law -1", x.plan(-1, 0, 6, -1), BAD);
         due("plan by law 2", x.plan(2, 0, 6, -1), BAD);
         due("adopt by law -1", x.adopt(-1, 0, 6), BAD);
@@ -320,6 +324,10 @@ public final class BestEdgesTest {
         // a contact in the last slot: 2 of the 18 that come in then
         StationPasses last = Told.laid("s59,60,0,1,9;g0,1;a0,2,0;");
         plan("in slot 59", last, 1, 0, 6, 2, 1076, 1, 1, 0);
+        // full is 18, 2 come in: behind a contact in 58 there are 17, so without one in 59 a half is lost there
+        StationPasses half = Told.laid("s58,60,1,9,1;g0,1;g1,1;a0,1,0;a1,1,0;");
+        plan("the least less, by more contacts", half, 1, 0, 6, 6, 98, 2, 2, 0, 1);
+        plan("one of the two", half, 1, 0, 1, 3, 99, 1, 1, 0, NONE);
         // a loss outside the window counts, too, though nothing in it does
         StationPasses full = Told.laid("s0,60,0,60,1;s0,60,0,1,9;g0,1;a0,0,0;");
         plan("the one that never runs over gets none", full, 1, 0, 6, 2, 1076, 1, 1, NONE, 0);
@@ -428,6 +436,23 @@ public final class BestEdgesTest {
         y.out(1, 31, 31);
         plan("the first two are of one sat", y, 0, 0, 6, 48, 0, 2, 2, NONE, 1, 0, NONE);
         plan("in the next window they are not", y, 0, 1, 6, 48, 0, 2, 2, 1, 0, NONE);
+    }
+
+    private static void planOfWindowsInTurn() {
+        CHECK.says("All that is asked is told of all as it stands then");
+        // 0-5 and 6-11 do not go together with a setup of 1, 6-11 and 20-25 do
+        StationPasses x = Told.laid("s0,60,0,9,0;s6,60,0,9,0;s20,60,0,9,0;g0,6;a0,0,1;");
+        plan("the first two do not go together", x, 0, 0, 6, 48, 0, 2, 2, NONE, 0, 0);
+        plan("in the next window they do", x, 0, 1, 6, 48, 0, 2, 2, 0, 0);
+        plan("the first window again", x, 0, 0, 6, 48, 0, 2, 2, NONE, 0, 0);
+        plan("with another antenna told, all do", laidAnew(x, "s0,60,0,9,0;s6,60,0,9,0;s20,60,0,9,0;g0,6;a0,0,0;"),
+            0, 0, 6, 72, 0, 3, 3, 0, 0, 0);
+    }
+
+    private static StationPasses laidAnew(StationPasses x, String text) {
+        Told.tell(x, text);
+        x.lay();
+        return x;
     }
 
     private static void planned() {

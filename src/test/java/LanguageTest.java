@@ -20,12 +20,21 @@ public final class LanguageTest {
     private static final String NOT_THERE =
         "\\b(throw|throws|try|catch|finally|synchronized|assert|protected|package|hashCode|toString)\\b|->|::|\\w+Exact\\b";
 
+    /** Of rule 4 what the class may call by a library's name; String's own methods are not looked at. */
+    private static final Set<String> LIBRARY = Set.of("Arrays.fill", "Arrays.copyOf", "Arrays.copyOfRange",
+        "System.arraycopy", "Math.min", "Math.max", "Math.abs", "Math.floorMod", "Math.floorDiv", "Integer.bitCount",
+        "Integer.compare", "Integer.min", "Integer.max");
+    private static final int MOST_LINES = 60;
+
     private static final Check CHECK = new Check();
 
     public static void main(String[] args) throws IOException {
         face();
         classesInside();
-        words(Files.readString(Path.of(args[0])));
+        String source = Files.readString(Path.of(args[0]));
+        words(source);
+        library(source);
+        methodsAreShort(source);
         callsMakeNothing();
         CHECK.end();
     }
@@ -75,8 +84,12 @@ public final class LanguageTest {
         }
     }
 
+    private static String withoutCommentsAndTexts(String source) {
+        return source.replaceAll("(?s)/\\*.*?\\*/", "").replaceAll("//[^\n]*", "").replaceAll("\"[^\"]*\"", "\"\"");
+    }
+
     private static void words(String source) {
-        String code = source.replaceAll("(?s)/\\*.*?\\*/", "").replaceAll("//[^\n]*", "").replaceAll("\"[^\"]*\"", "\"\"");
+        String code = withoutCommentsAndTexts(source);
         Matcher m = Pattern.compile(NOT_THERE).matcher(code);
         while (m.find()) {
             isTrue("the source has " + m.group(), false);
@@ -84,6 +97,25 @@ public final class LanguageTest {
         Matcher imports = Pattern.compile("import ([^;]*);").matcher(code);
         while (imports.find()) {
             isTrue("import " + imports.group(1), Set.of("java.util.Arrays", "java.util.ArrayList", "java.util.List").contains(imports.group(1)));
+        }
+    }
+
+    private static void library(String source) {
+        String names = "\\b(?:Arrays|System|Math|Integer|Long|String|StringBuilder|Character|Object|List)\\.\\w+";
+        Matcher calls = Pattern.compile(names).matcher(withoutCommentsAndTexts(source).replaceAll("import [^;]*;", ""));
+        while (calls.find()) {
+            isTrue("the source has " + calls.group(), LIBRARY.contains(calls.group()));
+        }
+    }
+
+    /** A method ends with the brace that stands as deep as its head. */
+    private static void methodsAreShort(String source) {
+        Matcher heads = Pattern.compile("(?m)^( +)[^\n=;]*\\([^\n]*\\) \\{$").matcher(source);
+        while (heads.find()) {
+            int end = source.indexOf("\n" + heads.group(1) + "}", heads.end());
+            isTrue("it ends: " + heads.group().trim(), end >= 0);
+            long lines = source.substring(heads.start(), Math.max(end, heads.start())).lines().count();
+            isTrue("sixty lines at most: " + heads.group().trim(), lines < MOST_LINES);
         }
     }
 

@@ -10,6 +10,8 @@ import java.util.regex.Pattern;
  */
 final class PlainModel {
     static final int BAD = -1, NO = -2, FULL = -3, NONE = -4;
+    /** More sets than that are not tried: see canTryAllSets. */
+    private static final int MOST_SETS = 20_000;
 
     record Sat(int phase, int period, int band, int holds, int fills) { }
     record Station(int lag, int width) { }
@@ -282,21 +284,23 @@ final class PlainModel {
 
     /** Whether all sets for this antenna can be tried in a moment. */
     boolean canTryAllSets(int a) {
-        if (!isAntenna(a)) return true;
-        int n = 0;
-        for (int p = 0; p < passes.size(); p++) if (fits(p, a)) n++;
-        return n <= 14;
+        return !isAntenna(a) || setsOf(a).size() < MOST_SETS;
     }
 
     int best(int a, int k) {
         if (!isAntenna(a) || k < -2) return BAD;
-        List<List<Integer>> sets = new ArrayList<>();
-        allSets(a, 0, new ArrayList<>(), sets);
+        List<List<Integer>> sets = setsOf(a);
         List<Integer> best = sets.get(0);
         for (List<Integer> set : sets) if (isBetterSet(set, best)) best = set;
         if (k == -1) return total(best);
         if (k == -2) return best.size();
         return k < best.size() ? best.get(k) : NONE;
+    }
+
+    private List<List<Integer>> setsOf(int a) {
+        List<List<Integer>> sets = new ArrayList<>();
+        allSets(a, 0, new ArrayList<>(), sets);
+        return sets;
     }
 
     private int total(List<Integer> set) {
@@ -311,6 +315,7 @@ final class PlainModel {
     }
 
     private void allSets(int a, int p, List<Integer> chosen, List<List<Integer>> sets) {
+        if (sets.size() >= MOST_SETS) return;
         if (p == passes.size()) {
             sets.add(new ArrayList<>(chosen));
             return;

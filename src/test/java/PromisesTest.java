@@ -38,6 +38,7 @@ public final class PromisesTest {
         count();
         nothingLaid();
         wrongNumbers();
+        exampleOfReadme();
         CHECK.end();
     }
 
@@ -807,5 +808,24 @@ public final class PromisesTest {
             due("count", x.count(n), BAD);
         }
         due("no change by all that", x.count(5), 0);
+    }
+
+    /** The calls that README.md shows, and what it says of them. */
+    private static void exampleOfReadme() {
+        StationPasses x = new StationPasses();
+        tell(x, "s0,20,0,30,1;g0,6;a0,0,0;");
+        due("README: fault()", x.fault(), NONE);
+        due("README: lay()", x.lay(), 3);
+        due("README: pass(1,0)", x.pass(1, 0), 20);
+        due("README: pass(1,4)", x.pass(1, 4), 24);
+        due("README: why(0,0)", x.why(0, 0), 0);
+        due("README: give(0,0)", x.give(0, 0), 1);
+        due("README: store(0,5,2)", x.store(0, 5, 2), 12);
+        due("README: count(8)", x.count(8), 48);
+        due("README: plan(1,0,6,-2)", x.plan(1, 0, 6, -2), 0);
+        due("README: adopt(1,0,6)", x.adopt(1, 0, 6), 2);
+        due("README: out(0,40,59)", x.out(0, 40, 59), 1);
+        due("README: undo()", x.undo(), 2);
+        due("README: pass(3,0)", x.pass(3, 0), BAD);
     }
 }
